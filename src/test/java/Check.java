@@ -1,0 +1,77 @@
+/** What the tests share: they compare answers, and look at what is thrown and that it changes nothing. */
+final class Check {
+    private static int wrong = 0;
+    private static int made = 0;
+
+    private Check() {
+    }
+
+    interface Call {
+        void run();
+    }
+
+    static void due(String what, long got, long want) {
+        made++;
+        if (got != want) {
+            fail(what + " answered " + got + ", due is " + want);
+        }
+    }
+
+    static void due(String what, double got, double want) {
+        made++;
+        if (got != want) {
+            fail(what + " answered " + got + ", due is " + want);
+        }
+    }
+
+    static void due(String what, boolean got) {
+        made++;
+        if (!got) {
+            fail(what);
+        }
+    }
+
+    /** The call throws exactly this exception, from a throw statement of the class, and changes nothing. */
+    static void refused(String what, LastMile x, Class<? extends RuntimeException> want, Call call) {
+        made++;
+        long before = x.digest();
+        try {
+            call.run();
+            fail(what + " answered, due is " + want.getName());
+        } catch (RuntimeException e) {
+            if (e.getClass() != want) {
+                fail(what + " threw " + e + ", due is " + want.getName());
+            } else if (!e.getStackTrace()[0].getClassName().startsWith("LastMile")) {
+                fail(what + " did not throw by itself: " + e);
+            }
+        }
+        if (x.digest() != before) {
+            fail(what + " threw, but changed something");
+        }
+    }
+
+    static void index(String what, LastMile x, Call call) {
+        refused(what, x, IndexOutOfBoundsException.class, call);
+    }
+
+    static void argument(String what, LastMile x, Call call) {
+        refused(what, x, IllegalArgumentException.class, call);
+    }
+
+    static void state(String what, LastMile x, Call call) {
+        refused(what, x, IllegalStateException.class, call);
+    }
+
+    static void fail(String what) {
+        wrong++;
+        if (wrong <= 40) {
+            System.out.println(what);
+        }
+    }
+
+    /** Ends the program with 1 if something was wrong. */
+    static void end() {
+        System.out.println(made + " checks, " + wrong + " wrong");
+        System.exit(wrong == 0 ? 0 : 1);
+    }
+}
