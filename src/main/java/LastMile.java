@@ -964,18 +964,23 @@ public final class LastMile {
             breaks = 0;
         }
 
+        /** Whether there is a break goes by the way as it would begin now; the way itself begins behind the break. */
         void goWithBreak(Place goal) {
-            int worked = minute - workSince;
-            if (worked + town.minutesOf(place, goal, minute) > LONGEST_WORK) {
+            int way = town.minutesOf(place, goal, minute);
+            if (minute - workSince + way > LONGEST_WORK) {
                 minute += BREAK_MINUTES;
                 workSince = minute;
                 breaks++;
+                way = town.minutesOf(place, goal, minute);
             }
-            goStraight(goal);
+            arrive(goal, way);
         }
 
         void goStraight(Place goal) {
-            int way = town.minutesOf(place, goal, minute);
+            arrive(goal, town.minutesOf(place, goal, minute));
+        }
+
+        private void arrive(Place goal, int way) {
             going += way;
             minute += way;
             place = goal;
@@ -1128,7 +1133,6 @@ public final class LastMile {
             parcel.state = IN_LOCKER;
             parcel.where = number;
             parcel.box = box;
-            parcel.nights = 0;
         }
 
         private void tryNeighbour(Parcel parcel, int number) {
@@ -1161,7 +1165,6 @@ public final class LastMile {
             locker.free[parcel.box]++;
             parcel.state = state;
             parcel.where = -1;
-            parcel.box = -1;
         }
     }
 }

@@ -15,10 +15,12 @@ public final class DayTest {
         attempts();
         lockerByKind();
         lockerDistance();
+        leastBox();
         boxes();
         fetchedFromLocker();
         nightsInLocker();
         neighbour();
+        firstHomeAsNeighbour();
         neighbourByTheHour();
         ordersOneAfterTheOther();
         ordersInTheirOrder();
@@ -158,6 +160,22 @@ public final class DayTest {
         }
     }
 
+    private static void leastBox() {
+        int[] volumes = {1, 5, 6, 15, 16, 40};
+        int[] boxes = {0, 0, 1, 1, 2, 2};
+        for (int i = 0; i < volumes.length; i++) {
+            LastMile x = oneHome(0);
+            x.addLocker(30, 54, 9, 9, 9);
+            x.order(0, true, 0);
+            x.addParcel(0, volumes[i], 0, 0, 1439);
+            driven(x);
+            for (int size = 0; size < 3; size++) {
+                Check.due("promise 23: volume " + volumes[i] + ", free boxes of size " + size, x.locker(0, 2 + size),
+                    size == boxes[i] ? 8 : 9);
+            }
+        }
+    }
+
     /** On two days, so that there is room; what is laid in on the first lies there on the second. */
     private static void boxes() {
         int[] volumes = {5, 6, 15, 16, 40, 5, 5, 15, 1, 6, 16};
@@ -239,6 +257,16 @@ public final class DayTest {
                 Check.due("promise 23: an attempt", x.parcel(0, 5), 1);
             }
         }
+    }
+
+    private static void firstHomeAsNeighbour() {
+        LastMile x = oneHome(ALL_DAY);
+        x.addHome(30, 44, 0);
+        x.order(1, false, 0);
+        x.addParcel(1, 10, 1, 0, 1439);
+        Check.due("promise 23: with the home 0", driven(x), 10000 + 498 + 4 + 2 + 10);
+        state("promise 23: with the home 0", x, 0, WITH_NEIGHBOUR, 0);
+        Check.due("promise 9: left there", x.home(0, 5), 1);
     }
 
     /** The van comes to the neighbour 4 + 8 minutes behind the stop. */
@@ -401,6 +429,10 @@ public final class DayTest {
         Check.due("promise 24: a van without parcels", x.foresee(2), 900);
         Check.due("promise 24: nothing is changed", x.digest(), before);
         Check.due("promise 24: as it was told", x.drive(), 1);
+        x.put(1, 1, 0);
+        Check.due("promise 24: a later day", x.foresee(2), 924);
+        x.take(1);
+        Check.due("promise 24: not the latest minute of another day", x.foresee(2), 900);
         for (int wrong : WRONG) {
             Check.index("promise 24: what " + wrong, x, () -> x.foresee(wrong));
         }

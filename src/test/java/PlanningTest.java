@@ -12,6 +12,7 @@ public final class PlanningTest {
         planByRoom();
         improve();
         improveEndsFirst();
+        improveTheMiddle();
         improveOnlyWhatIsPossible();
         move();
         moveToAnother();
@@ -211,6 +212,21 @@ public final class PlanningTest {
         Check.due("promise 15: 14 minutes late", x.van(0, 4), 40 + 42);
         Check.due("promise 20: 14 minutes less late", x.improve(0), 42);
         row("promise 20: of these the one that ends first", x, 0, 1, 0, 2);
+    }
+
+    /** A part in the middle of a longer route; each of the others is where it was. */
+    private static void improveTheMiddle() {
+        LastMile x = new LastMile();
+        int[] places = {35, 50, 45, 40, 55, 60};
+        x.addVan(40, 480, 1000);
+        for (int i = 0; i < places.length; i++) {
+            x.addHome(places[i], 30, ALL_DAY);
+            x.addParcel(0, 1, i, 0, 1439);
+            x.put(i, 0, i);
+        }
+        Check.due("promise 15: cost", x.van(0, 4), 5 + 15 + 5 + 5 + 15 + 5 + 30);
+        Check.due("promise 20: the part from 1 to 3", x.improve(0), 20);
+        row("promise 20: the part from 1 to 3", x, 0, 0, 3, 2, 1, 4, 5);
     }
 
     private static void improveOnlyWhatIsPossible() {
