@@ -138,10 +138,7 @@ public final class LastMile {
         needRange(till, from, LAST_MINUTE);
         needIndex(home, homes.size());
         needSpace(parcels.size(), MOST_PARCELS);
-        Parcel added = new Parcel(parcels.size(), kind, volume, home, homes.get(home));
-        added.from = from;
-        added.till = till;
-        parcels.add(added);
+        parcels.add(new Parcel(parcels.size(), kind, volume, home, homes.get(home), from, till));
         return parcels.size() - 1;
     }
 
@@ -818,8 +815,8 @@ public final class LastMile {
         final int volume;
         final int homeNumber;
         final Home home;
-        int from = 0;
-        int till = 0;
+        final int from;
+        final int till;
         Van van = null;
         int attempts = 0;
         int state = WAITS;
@@ -828,12 +825,14 @@ public final class LastMile {
         int nights = 0;
         private final int[] kept = new int[5];
 
-        Parcel(int number, int kind, int volume, int homeNumber, Home home) {
+        Parcel(int number, int kind, int volume, int homeNumber, Home home, int from, int till) {
             this.number = number;
             this.kind = kind;
             this.volume = volume;
             this.homeNumber = homeNumber;
             this.home = home;
+            this.from = from;
+            this.till = till;
         }
 
         void keep() {
