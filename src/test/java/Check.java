@@ -1,3 +1,5 @@
+import java.util.function.Supplier;
+
 /** What the tests share: they compare answers, and look at what is thrown and that it changes nothing. */
 final class Check {
     private static int wrong = 0;
@@ -8,6 +10,10 @@ final class Check {
 
     interface Call {
         void run();
+    }
+
+    interface CallWith {
+        void run(LastMile x, int value);
     }
 
     static void due(String what, long got, long want) {
@@ -60,6 +66,28 @@ final class Check {
 
     static void state(String what, LastMile x, Call call) {
         refused(what, x, IllegalStateException.class, call);
+    }
+
+    static void allowed(String what, Call call) {
+        made++;
+        try {
+            call.run();
+        } catch (RuntimeException e) {
+            fail(what + " threw " + e);
+        }
+    }
+
+    /** On a new object each: the least and the most are allowed; those beside them, and far ones, are refused. */
+    static void range(String what, int least, int most, Class<? extends RuntimeException> want,
+            Supplier<LastMile> maker, CallWith call) {
+        for (int value : new int[] {least, most}) {
+            LastMile x = maker.get();
+            allowed(what + " " + value, () -> call.run(x, value));
+        }
+        for (int value : new int[] {Integer.MIN_VALUE, least - 1, most + 1, Integer.MAX_VALUE}) {
+            LastMile x = maker.get();
+            refused(what + " " + value, x, want, () -> call.run(x, value));
+        }
     }
 
     static void fail(String what) {

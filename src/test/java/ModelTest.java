@@ -10,9 +10,9 @@ public final class ModelTest {
 
     private final Random chance;
     private final int spread;
-    private final LastMile x = new LastMile();
-    private final Model m = new Model();
-    private final int[] a = new int[5];
+    private final Both both = new Both();
+    private final Model m = both.m;
+    private final int[] a = both.a;
 
     private ModelTest(long seed) {
         chance = new Random(seed);
@@ -34,15 +34,15 @@ public final class ModelTest {
         for (int i = 0; i < calls; i++) {
             String name = i < filling ? CALLS[chance.nextInt(7)] : chosen();
             arguments(name);
-            String got = answer(name, true);
-            String want = answer(name, false);
+            String got = both.ofClass(name);
+            String want = both.ofModel(name);
             told.append(name).append(java.util.Arrays.toString(a)).append(" = ").append(got).append('\n');
             Check.due("run " + seed + ", call " + i + ", " + name + ": " + got + ", due is " + want, got.equals(want));
             if (!got.equals(want)) {
                 return;
             }
             if (i % 8 == 0 || i == calls - 1) {
-                Check.due("run " + seed + ", digest behind call " + i + ", " + name, x.digest(), m.digest());
+                Check.due("run " + seed + ", digest behind call " + i + ", " + name, both.x.digest(), m.digest());
             }
         }
     }
@@ -122,76 +122,6 @@ public final class ModelTest {
             case "foresee": set(number(0, 2)); break;
             case "hour": set(home); break;
             default: set();
-        }
-    }
-
-    private String answer(String name, boolean own) {
-        try {
-            return String.valueOf(own ? ofClass(name) : ofModel(name));
-        } catch (RuntimeException e) {
-            return e.getClass().getName();
-        }
-    }
-
-    private Object ofClass(String name) {
-        switch (name) {
-            case "setRoads": return x.setRoads(a[0], a[1]);
-            case "setDepot": return x.setDepot(a[0], a[1]);
-            case "addHome": return x.addHome(a[0], a[1], a[2]);
-            case "order": return x.order(a[0], a[1] == 1, a[2]);
-            case "addLocker": return x.addLocker(a[0], a[1], a[2], a[3], a[4]);
-            case "addVan": return x.addVan(a[0], a[1], a[2]);
-            case "addParcel": return x.addParcel(a[0], a[1], a[2], a[3], a[4]);
-            case "home": return x.home(a[0], a[1]);
-            case "locker": return x.locker(a[0], a[1]);
-            case "parcel": return x.parcel(a[0], a[1]);
-            case "put": return x.put(a[0], a[1], a[2]);
-            case "take": return x.take(a[0]);
-            case "route": return x.route(a[0], a[1]);
-            case "van": return x.van(a[0], a[1]);
-            case "stop": return x.stop(a[0], a[1], a[2]);
-            case "adds": return x.adds(a[0], a[1], a[2]);
-            case "cheapest": return x.cheapest(a[0]);
-            case "plan": return x.plan();
-            case "improve": return x.improve(a[0]);
-            case "move": return x.move();
-            case "count": return x.count(a[0]);
-            case "drive": return x.drive();
-            case "foresee": return x.foresee(a[0]);
-            case "hour": return x.hour(a[0]);
-            case "mean": return x.mean();
-            default: return x.digest();
-        }
-    }
-
-    private Object ofModel(String name) {
-        switch (name) {
-            case "setRoads": return m.setRoads(a[0], a[1]);
-            case "setDepot": return m.setDepot(a[0], a[1]);
-            case "addHome": return m.addHome(a[0], a[1], a[2]);
-            case "order": return m.order(a[0], a[1] == 1, a[2]);
-            case "addLocker": return m.addLocker(a[0], a[1], a[2], a[3], a[4]);
-            case "addVan": return m.addVan(a[0], a[1], a[2]);
-            case "addParcel": return m.addParcel(a[0], a[1], a[2], a[3], a[4]);
-            case "home": return m.home(a[0], a[1]);
-            case "locker": return m.locker(a[0], a[1]);
-            case "parcel": return m.parcel(a[0], a[1]);
-            case "put": return m.put(a[0], a[1], a[2]);
-            case "take": return m.take(a[0]);
-            case "route": return m.route(a[0], a[1]);
-            case "van": return m.van(a[0], a[1]);
-            case "stop": return m.stop(a[0], a[1], a[2]);
-            case "adds": return m.adds(a[0], a[1], a[2]);
-            case "cheapest": return m.cheapest(a[0]);
-            case "plan": return m.plan();
-            case "improve": return m.improve(a[0]);
-            case "move": return m.move();
-            case "count": return m.count(a[0]);
-            case "drive": return m.drive();
-            case "foresee": return m.foresee(a[0]);
-            case "hour": return m.hour(a[0]);
-            case "mean": return m.mean();
-            default: return m.digest();
         }
     }
 }
