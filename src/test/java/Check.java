@@ -2,10 +2,30 @@ import java.util.function.Supplier;
 
 /** What the tests share: they compare answers, and look at what is thrown and that it changes nothing. */
 final class Check {
+    private static final int LONGEST_SECONDS = 300;
     private static int wrong = 0;
     private static int made = 0;
 
+    static {
+        guardTheEnd();
+    }
+
     private Check() {
+    }
+
+    /** A call that does not end has to be a failure too, and not hold up the other tests. */
+    private static void guardTheEnd() {
+        Thread guard = new Thread(() -> {
+            try {
+                Thread.sleep(1000L * LONGEST_SECONDS);
+            } catch (InterruptedException e) {
+                return;
+            }
+            System.out.println("no end within " + LONGEST_SECONDS + " seconds");
+            Runtime.getRuntime().halt(1);
+        });
+        guard.setDaemon(true);
+        guard.start();
     }
 
     interface Call {
