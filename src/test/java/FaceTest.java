@@ -5,8 +5,12 @@ import java.lang.reflect.Method;
 import java.lang.reflect.Modifier;
 import java.nio.file.Files;
 import java.nio.file.Path;
+import java.util.Map;
 import java.util.Set;
+import java.util.TreeMap;
 import java.util.TreeSet;
+import java.util.regex.Matcher;
+import java.util.regex.Pattern;
 
 /** The public face, and the rules of LANGUAGE.md that can be looked up in the class or in its text. */
 public final class FaceTest {
@@ -50,6 +54,7 @@ public final class FaceTest {
         members();
         classesInside();
         text();
+        methods();
         Check.end();
     }
 
@@ -141,5 +146,37 @@ public final class FaceTest {
                 Check.fail("a sign that is not of ASCII at " + i);
             }
         }
+    }
+
+    /** Rules 8 and 11: short methods, none that calls itself, and no chain of calls of more than eight. */
+    private static void methods() throws IOException {
+        String text = Files.readString(Path.of("src/main/java/LastMile.java"));
+        Map<String, String> bodies = new TreeMap<>();
+        Pattern start = Pattern.compile("(?m)^((?: {4}){1,2})(?:\\w+ )*\\w+(?:\\[\\])? (\\w+)\\([^;{}]*\\{\n");
+        Matcher head = start.matcher(text);
+        while (head.find()) {
+            int from = head.end() - 1;
+            String body = text.substring(from, text.indexOf("\n" + head.group(1) + "}\n", from));
+            Check.due("rule 11: the lines of " + head.group(2), body.strip().split("\n").length <= 60);
+            // Methods of one name are looked at as one, so that a chain may seem longer here, but never shorter.
+            bodies.merge(head.group(2), body, String::concat);
+        }
+        for (Method method : LastMile.class.getDeclaredMethods()) {
+            Check.due("rule 11: " + method.getName() + " is looked at", bodies.containsKey(method.getName()));
+        }
+        for (String name : bodies.keySet()) {
+            Check.due("rules 8 and 11: calls below " + name, depthOf(name, bodies, 1) <= 8);
+        }
+    }
+
+    private static int depthOf(String name, Map<String, String> bodies, int depth) {
+        int deepest = depth;
+        Matcher called = Pattern.compile("(\\w+)\\(").matcher(bodies.get(name));
+        while (depth <= 8 && called.find()) {
+            if (bodies.containsKey(called.group(1))) {
+                deepest = Math.max(deepest, depthOf(called.group(1), bodies, depth + 1));
+            }
+        }
+        return deepest;
     }
 }
